@@ -477,24 +477,24 @@ public final class GapBuffer {
         private final int[] sides = new int[MARKS];
 
         Marks() {
-            for (int mark = 0; mark < positions.length; mark++) {
+            for (int mark = 0; mark < MARKS; mark++) {
                 positions[mark] = NONE;
             }
         }
 
         int positionOf(int mark) {
-            return mark >= 0 && mark < positions.length ? positions[mark] : NONE;
+            return isMark(mark) ? positions[mark] : NONE;
         }
 
         void place(int mark, int position, int side) {
-            if (mark >= 0 && mark < positions.length && mark < sides.length) {
+            if (isMark(mark)) {
                 positions[mark] = position;
                 sides[mark] = side;
             }
         }
 
         void shiftForInsertion(int position, int count) {
-            for (int mark = 0; mark < positions.length && mark < sides.length; mark++) {
+            for (int mark = 0; mark < MARKS; mark++) {
                 boolean isPushed = positions[mark] == position && sides[mark] == RIGHT;
                 if (positions[mark] > position || isPushed) {
                     positions[mark] += count;
@@ -502,9 +502,9 @@ public final class GapBuffer {
             }
         }
 
-        /** A mark that is not set stands before every byte, so it stays as it is. */
+        /** NONE is less than any position, so a mark that is not set stays so. */
         void shiftForDeletion(int position, int count) {
-            for (int mark = 0; mark < positions.length; mark++) {
+            for (int mark = 0; mark < MARKS; mark++) {
                 if (positions[mark] > position) {
                     positions[mark] = Math.max(position, positions[mark] - count);
                 }
@@ -512,7 +512,7 @@ public final class GapBuffer {
         }
 
         void assign(Marks other) {
-            for (int mark = 0; mark < positions.length; mark++) {
+            for (int mark = 0; mark < MARKS; mark++) {
                 place(mark, other.positions[mark], other.sides[mark]);
             }
         }
@@ -744,7 +744,7 @@ public final class GapBuffer {
         }
     }
 
-    /** The states that are saved last, in a ring of rows. */
+    /** The states that were saved last, in a ring of rows. */
     private static final class History {
         private final State[] rows = new State[MAX_SAVED];
         private int next = 0;
@@ -761,8 +761,11 @@ public final class GapBuffer {
         }
 
         void save(State state) {
+            if (next == rows.length) {
+                next = 0;
+            }
             rows[next].assign(state);
-            next = next + 1 < rows.length ? next + 1 : 0;
+            next++;
             count = Math.min(count + 1, rows.length);
         }
 

@@ -179,8 +179,16 @@ final class EditTest {
         due.same("shrink: 56 of 256", y.capacity(), 128);
         y.erase(100);
         due.same("shrink: 3 of 128", y.capacity(), 8);
-        due.same("shrink: by one edit", y.shrinks(), 5);
+        due.same("shrink: by two edits", y.shrinks(), 5);
         due.same("shrink: cells", Due.cells(y), "abc_____");
+
+        GapBuffer z = full();
+        z.backspace(100);
+        z.backspace(91);
+        due.same("shrink: 65 of 256", z.capacity(), 256);
+        z.backspace(64);
+        due.same("shrink: 1 of 256", z.capacity(), 8);
+        due.same("shrink: five times by one edit", z.shrinks(), 5);
     }
 
     private static GapBuffer full() {

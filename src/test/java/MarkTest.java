@@ -251,5 +251,11 @@ final class MarkTest {
 
         GapBuffer y = new GapBuffer();
         due.refuses(y, "18 wrong and empty", INDEX, () -> y.find(1));
+        Due.command(y, "+bbaacab;@5;m0;@7;x0");
+        due.same("18 all bytes of the clipboard", Due.clipboard(y), "ab");
+        y.fill('b', 2);
+        y.paste();
+        due.same("18 text", Due.text(y), "bbaacbbab");
+        due.same("18 not by the last byte alone", y.find(0), 7);
     }
 }

@@ -134,6 +134,7 @@ final class MoveTest {
         y.moveTo(5);
         y.down();
         due.same("goal: a line that ends the text", y.down(), 11);
+        due.same("goal: not behind the text", y.down(), 11);
         due.same("goal: none deleted, still as it was", y.erase(1), 0);
         y.up();
         due.same("goal: set though none is deleted", y.up(), 2);
