@@ -10,7 +10,6 @@ final class ArrayTest {
     }
 
     private static void growing() {
-        GapBuffer x = new GapBuffer();
         int copied = 0;
         int growths = 0;
         for (int length = 1; length <= 256; length++) {
@@ -18,14 +17,14 @@ final class ArrayTest {
                 copied += length - 1;
                 growths++;
             }
-            x.type('a');
+            GapBuffer x = typedOn(length);
             due.same("27 capacity at " + length, x.capacity(), 8 << growths);
             due.same("28 gapStart at " + length, x.gapStart(), length);
             due.same("31 copied at " + length, x.copied(), copied);
             due.same("32 growths at " + length, x.growths(), growths);
         }
-        due.same("30 carried", x.carried(), 0);
-        due.same("33 shrinks", x.shrinks(), 0);
+        due.same("30 carried", typedOn(256).carried(), 0);
+        due.same("33 shrinks", typedOn(256).shrinks(), 0);
 
         GapBuffer y = Due.typed("abc");
         y.moveTo(1);
@@ -38,6 +37,14 @@ final class ArrayTest {
         GapBuffer z = Due.typed("abc");
         z.fill('x', 5);
         due.same("27 just enough", z.capacity(), 8);
+    }
+
+    private static GapBuffer typedOn(int length) {
+        GapBuffer x = new GapBuffer();
+        for (int i = 0; i < length; i++) {
+            x.type('a');
+        }
+        return x;
     }
 
     private static void shrinking() {

